@@ -190,6 +190,9 @@ public final class PromiseTests {
                 "clientOf(4, 0) = -3000", "pass(10) = 11", "clientOf(2, 0) = 6378", "lenderOf(0, 0, 3) = 11",
                 "price(0, 1000) = 100", "pass(1) = 12", "clientOf(2, 0) = 6344", "lenderOf(0, 0, 3) = 30",
                 "lenderOf(1, 0, 3) = 26");
+        Script.run("promise 8, a fee just below a whole cent",
+                "offer(0, 0, 497, 9999) = 497", "price(0, 99998) = 100", "locate(2, 0, 497) = 0",
+                "sellShort(0, 497) = 49699006", "pass(1) = 1", "lenderOf(0, 0, 3) = 138038");
         Script.run("promise 8, the dearest fee",
                 "offer(0, 0, 500, 10000) = 500", "price(0, 100000) = 100", "locate(2, 0, 500) = 0",
                 "sellShort(0, 500) = 50000000", "pass(1) = 1", "clientOf(2, 0) = 49861112", "lenderOf(0, 0, 3) = 138888");
@@ -337,6 +340,10 @@ public final class PromiseTests {
                 "loanOf(2, 1) = 2", "loanOf(2, 2) = 1", "loanOf(2, 3) = 1", "loanOf(3, 1) = 11", "loanOf(3, 2) = 1",
                 "count(0) = 4", "count(2) = 2", "position(0, 0) = -1", "position(1, 0) = -2", "clientOf(0, 0) = 90",
                 "clientOf(1, 0) = 200", "part(2, 0) = 0", "buy(0, 0, 1) = -10", "lenderOf(0, 0, 0) = 4");
+        Script.run("promise 13, not replaced out of that lender's own pool",
+                "offer(3, 2, 9, 0) = 9", "locate(0, 2, 5) = 0", "sellShort(0, 5) = 500", "recall(3, 2, 4, 1) = 0",
+                "pass(1) = 1", "lenderOf(3, 2, 0) = 4", "lenderOf(3, 2, 1) = 1", "count(0) = 1", "count(2) = 4",
+                "position(0, 2) = -1", "clientOf(0, 0) = 80");
         Script.run("promise 13, another lender's and another stock's loans stay",
                 "offer(0, 0, 5, 0) = 5", "offer(1, 0, 5, 1) = 5", "offer(0, 1, 5, 0) = 5", "locate(0, 0, 10) = 0",
                 "sellShort(0, 10) = 1000", "locate(0, 1, 5) = 1", "sellShort(1, 5) = 1500", "recall(0, 0, 500, 1) = 0",
@@ -371,6 +378,13 @@ public final class PromiseTests {
                 "buy(0, 0, 10) = -1000", "allow(0, true) = false", "locate(1, 0, 10) = 0", "sellShort(0, 10) = 1000",
                 "clientOf(0, 3) = 1", "liquidate(0) = 1", "position(1, 0) = 0", "clientOf(1, 0) = -50", "count(2) = 10",
                 "clientOf(0, 0) = 0");
+        Script.run("promise 14, four positions",
+                "buy(0, 0, 1) = -100", "buy(0, 1, 1) = -200", "buy(0, 3, 1) = -300", "offer(1, 2, 1, 0) = 1",
+                "locate(0, 2, 1) = 0", "sellShort(0, 1) = -200", "price(2, 300) = 100", "liquidate(0) = 4",
+                "position(0, 0) = 0", "position(0, 1) = 0", "position(0, 2) = 0", "position(0, 3) = 0",
+                "clientOf(0, 0) = -200");
+        Script.run("promise 14, a worth of 1",
+                "buy(0, 0, 1) = -100", "price(0, 1) = 100", "liquidate(0) = 1", "clientOf(0, 0) = -99");
         Script.run("promise 14, failed",
                 "fail(0) = 0", "liquidate(0) = state");
     }
@@ -391,6 +405,9 @@ public final class PromiseTests {
                 "buy(0, 0, 10) = -1000", "allow(0, true) = false", "locate(1, 0, 10) = 0", "sellShort(0, 10) = 1000",
                 "offer(2, 0, 6, 30) = 6", "fail(0) = 0", "position(1, 0) = -6", "loanOf(1, 1) = 12", "loanOf(1, 3) = 6",
                 "count(2) = 4", "clientOf(1, 0) = 580", "part(0, 0) = 0", "partAnew(0, 0) = 0");
+        Script.run("promise 15, one share short",
+                "offer(2, 3, 1, 0) = 1", "locate(0, 3, 1) = 0", "sellShort(0, 1) = 100", "fail(0) = 0",
+                "position(0, 3) = 0", "lenderOf(2, 3, 0) = 1", "count(1) = 0");
         Script.run("promise 15, of another that failed nothing changes",
                 "buy(0, 0, 10) = -1000", "allow(0, true) = false", "locate(1, 0, 10) = 0", "sellShort(0, 10) = 1000",
                 "fail(1) = 0", "part(0, 0) = 10", "partAnew(0, 0) = 10", "clientOf(1, 0) = 0", "locateOf(0, 3) = 0",
@@ -418,6 +435,17 @@ public final class PromiseTests {
             }
         }
         Script.run("promises 17 to 19", lines.toArray(new String[0]));
+        lines.clear();
+        for (int client = 0; client < 6; client++) {
+            lines.add("buy(" + client + ", 1, 500) = -50000");
+        }
+        for (int client = 0; client < 6; client++) {
+            lines.add("part(" + client + ", 1) = 500");
+            lines.add("partAnew(" + client + ", 1) = 500");
+        }
+        lines.addAll(Arrays.asList("stockOf(1, 1) = 3000", "stockOf(1, 3) = 3000", "sell(5, 1, 500) = 0",
+                "partAnew(5, 1) = 0", "partAnew(0, 1) = 500", "buy(5, 1, 1) = -100", "partAnew(5, 1) = 1"));
+        Script.run("promise 19, all the shares there can be", lines.toArray(new String[0]));
         Script.run("promise 19, the same share is lent, comes back and is lent again",
                 "buy(0, 0, 3) = -300", "buy(1, 0, 2) = -200", "allow(0, true) = false", "allow(1, true) = false",
                 "locate(2, 0, 4) = 0", "sellShort(0, 4) = 400", "partAnew(0, 0) = 0", "partAnew(1, 0) = 1",
@@ -442,6 +470,9 @@ public final class PromiseTests {
                 "clientOf(0, 2) = 1000", "clientOf(0, 1) = 0", "price(1, 101) = 100", "clientOf(0, 2) = 1106",
                 "clientOf(0, 1) = -10", "price(0, 102) = 100", "clientOf(0, 2) = 1117", "clientOf(0, 1) = 10",
                 "buy(0, 2, 1) = -100", "clientOf(0, 2) = 1065", "margin(1, 100) = 50", "clientOf(0, 2) = 1570");
+        Script.run("promise 20, just more than half",
+                "price(0, 51) = 100", "price(1, 50) = 100", "buy(0, 0, 1) = -51", "buy(0, 1, 1) = -101",
+                "clientOf(0, 2) = 55");
     }
 
     private static void promise21() {
@@ -461,7 +492,8 @@ public final class PromiseTests {
                 "offer(1, 2, 2, 2) = 2", "locate(3, 2, 25) = 0", "locate(4, 2, 5) = 1", "sellShort(0, 25) = 2500",
                 "sellShort(1, 5) = 500", "stockOf(2, 0) = 100", "stockOf(2, 1) = 50", "stockOf(2, 2) = 30",
                 "stockOf(2, 3) = 30", "stockOf(2, 4) = 20", "stockOf(2, 5) = 10", "stockOf(2, 6) = 50",
-                "stockOf(1, 1) = 0", "stockOf(-1, 0) = index", "stockOf(4, 0) = index", "stockOf(4, 7) = index",
+                "stockOf(1, 1) = 0", "offer(0, 3, 4, 0) = 4", "locate(0, 3, 3) = 2", "sellShort(2, 3) = -1700",
+                "stockOf(3, 2) = 3", "stockOf(3, 1) = 0", "stockOf(3, 5) = 3", "stockOf(-1, 0) = index", "stockOf(4, 0) = index", "stockOf(4, 7) = index",
                 "stockOf(0, -1) = argument", "stockOf(0, 7) = argument");
     }
 
@@ -483,9 +515,9 @@ public final class PromiseTests {
                 "locateOf(0, 3) = 1", "locateOf(1, 0) = 2", "locateOf(1, 2) = 5", "sellShort(0, 3) = 300",
                 "locateOf(0, 2) = 8", "locateOf(0, 3) = 0", "locateOf(1, 3) = 1", "pass(1) = 1", "locateOf(1, 3) = 1",
                 "pass(1) = 2", "locateOf(1, 3) = 0", "locateOf(1, 0) = 2", "locateOf(2, 0) = index",
-                "locateOf(-1, 0) = index", "locateOf(2, 4) = index", "locateOf(0, 4) = argument",
+                "offer(1, 3, 2, 0) = 2", "locateOf(-1, 0) = index", "locateOf(2, 4) = index", "locateOf(0, 4) = argument",
                 "locateOf(0, -1) = argument", "locate(3, 1, 1) = 2", "buy(3, 1, 1) = -100", "locateOf(2, 3) = 1",
-                "fail(3) = 0", "locateOf(2, 3) = 1");
+                "fail(3) = 0", "locateOf(2, 3) = 1", "locate(1, 3, 2) = 3", "locateOf(3, 1) = 3", "locateOf(3, 2) = 2");
     }
 
     private static void promise25() {
@@ -527,7 +559,7 @@ public final class PromiseTests {
                 "offer(3, 3, 5, 10) = 5", "locate(4, 3, 20) = 53", "locate(5, 3, 1) = 54", "sellShort(54, 1) = 100",
                 "count(0) = 997", "locate(4, 3, 15) = state", "locate(4, 3, 14) = 55", "sellShort(53, 15) = state",
                 "sellShort(53, 10) = 1000", "count(0) = 1000", "sellShort(55, 1) = state", "locate(4, 3, 1) = state",
-                "loanOf(999, 1) = 11", "loanOf(999, 3) = 1", "loanOf(1000, 1) = index", "position(2, 0) = -49",
+                "count(1) = 69", "loanOf(999, 1) = 11", "loanOf(999, 3) = 1", "loanOf(1000, 1) = index", "position(2, 0) = -49",
                 "part(1, 0) = 451", "part(0, 0) = 500", "sell(1, 0, 452) = -4800", "count(2) = 1",
                 "position(2, 0) = -48", "loanOf(979, 3) = 0", "loanOf(978, 3) = 1", "clientOf(2, 0) = 4795",
                 "sell(1, 0, 48) = 0", "count(0) = 1000", "count(2) = 49", "position(2, 0) = 0", "part(0, 0) = 500",
