@@ -313,12 +313,12 @@ final class Model {
         return cash[client] += cents;
     }
 
-    long allow(int client, boolean now) {
+    boolean allow(int client, boolean now) {
         there(client, 6);
         refuse(failed[client]);
         boolean was = may[client];
         may[client] = now;
-        return was ? 1 : 0;
+        return was;
     }
 
     long offer(int lender, int stock, int more, int itsFee) {

@@ -1,5 +1,3 @@
-import java.lang.reflect.InvocationTargetException;
-import java.lang.reflect.Method;
 import java.util.HashMap;
 import java.util.Map;
 
@@ -31,8 +29,6 @@ public final class ModelTests {
     private final Model model = new Model();
     private final StringBuilder past = new StringBuilder();
     private static final Map<String, Integer> REACHED = new HashMap<>();
-    private static final Map<String, Method> PROGRAM = new HashMap<>();
-    private static final Map<String, Method> MODEL = new HashMap<>();
 
     private ModelTests(long seed) {
         this.seed = seed;
@@ -43,14 +39,6 @@ public final class ModelTests {
     }
 
     public static void main(String[] args) {
-        for (Method method : Primeborrow.class.getDeclaredMethods()) {
-            PROGRAM.put(method.getName(), method);
-        }
-        for (Method method : Model.class.getDeclaredMethods()) {
-            if (!java.lang.reflect.Modifier.isPrivate(method.getModifiers()) && !method.isSynthetic()) {
-                MODEL.put(method.getName(), method);
-            }
-        }
         int runs = args.length > 0 ? Integer.parseInt(args[0]) : RUNS;
         int first = args.length > 1 ? Integer.parseInt(args[1]) : 1;
         for (int seed = first; seed < first + runs; seed++) {
@@ -209,31 +197,24 @@ public final class ModelTests {
         return number(0, stocks - 1);
     }
 
+    private static String written(String name, int[] values) {
+        StringBuilder text = new StringBuilder(name).append('(');
+        for (int i = 0; i < values.length; i++) {
+            boolean may = name.equals("allow") && i == 1;
+            text.append(i > 0 ? ", " : "").append(may ? String.valueOf(values[i] != 0) : String.valueOf(values[i]));
+        }
+        return text.append(')').toString();
+    }
+
     private boolean both(String name, int... values) {
-        String call = name + java.util.Arrays.toString(values);
+        String call = written(name, values);
         past.append(call).append('\n');
-        String due = answer(MODEL.get(name), model, values);
-        String answer = answer(PROGRAM.get(name), program, values);
-        REACHED.merge(name + (due.matches("-?\\d+") ? "" : " " + due), 1, Integer::sum);
+        String due = Script.answer(model, call);
+        String answer = Script.answer(program, call);
+        REACHED.merge(name + (Script.isThrown(due) ? " " + due : ""), 1, Integer::sum);
         if (!due.equals(answer)) {
             System.out.println("run " + seed + ":\n" + past + "answered " + answer + ", the model " + due);
         }
         return due.equals(answer);
-    }
-
-    private static String answer(Method method, Object object, int[] values) {
-        Class<?>[] types = method.getParameterTypes();
-        Object[] given = new Object[values.length];
-        for (int i = 0; i < values.length; i++) {
-            given[i] = types[i] == boolean.class ? (Object) (values[i] != 0) : (Object) values[i];
-        }
-        try {
-            Object answer = method.invoke(object, given);
-            return answer instanceof Boolean ? ((Boolean) answer ? "1" : "0") : String.valueOf(answer);
-        } catch (InvocationTargetException thrown) {
-            return Script.nameOf(thrown.getCause());
-        } catch (IllegalAccessException hidden) {
-            throw new IllegalStateException(hidden);
-        }
     }
 }
