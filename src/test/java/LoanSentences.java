@@ -122,6 +122,11 @@ final class LoanSentences {
                 "sellShort(0, 6) = 600", "locate(1, 0, 2) = 1", "sellShort(1, 2) = 200", "offer(0, 1, 3, 90) = 3",
                 "locate(0, 1, 3) = 2", "sellShort(2, 3) = 900", "buy(0, 0, 3) = 600", "loanOf(1, 3) = 0", "loanOf(0, 3) = 3",
                 "loanOf(2, 3) = 2", "loanOf(3, 3) = 3");
+        Script.run(TERMS, words, "offer(0, 0, 2, 300) = 2", "locate(1, 0, 2) = 0", "locate(2, 0, 1) = 1",
+                "sellShort(0, 1) = 100", "sellShort(1, 1) = 100", "offer(1, 0, 2, 100) = 2", "locate(1, 0, 2) = 2",
+                "sellShort(2, 2) = 300", "buy(1, 0, 1) = 200", "loanOf(0, 3) = 0", "loanOf(2, 3) = 2", "buy(1, 0, 1) = 100",
+                "loanOf(2, 3) = 1", "loanOf(1, 3) = 1", "buy(1, 0, 1) = 0", "loanOf(2, 3) = 0", "loanOf(1, 3) = 1",
+                "count(1) = 1", "lenderOf(0, 0, 0) = 1", "lenderOf(1, 0, 0) = 2");
         Script.run(TERMS, "(those from the box are 0)", "offer(0, 0, 2, 0) = 2", "locate(1, 0, 2) = 0", "sellShort(0, 2) = 200",
                 "buy(0, 0, 2) = -200", "allow(0, true) = false", "locate(1, 0, 2) = 1", "sellShort(1, 2) = 400",
                 "offer(1, 0, 2, 1) = 2", "locate(1, 0, 2) = 2", "sellShort(2, 2) = 600", "offer(2, 0, 2, 0) = 2",

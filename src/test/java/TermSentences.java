@@ -18,6 +18,7 @@ final class TermSentences {
         recalls();
         recallsMet();
         dividends();
+        dividendsOfAll();
         needs();
         called();
         liquidated();
@@ -256,6 +257,30 @@ final class TermSentences {
                 "clientOf(1, 0) = -510", "clientOf(3, 0) = 10", "lenderOf(2, 0, 3) = 10");
     }
 
+    private static void dividendsOfAll() {
+        List<String> lines = new ArrayList<>();
+        for (int client = 0; client < 6; client++) {
+            lines.add("buy(" + client + ", 3, " + (client + 1) + ") = " + -100 * (client + 1));
+            lines.add("allow(" + client + ", true) = false");
+        }
+        for (int lender = 0; lender < 4; lender++) {
+            lines.add("offer(" + lender + ", 0, 500, 0) = 500");
+            lines.add("locate(" + (5 - lender) + ", 0, 500) = " + lender);
+            lines.add("sellShort(" + lender + ", " + (lender + 1) + ") = " + 100 * (2 * lender - 5));
+        }
+        lines.add("dividend(3, 10) = 0");
+        lines.add("dividend(0, 1000) = 10000");
+        for (int client = 0; client < 6; client++) {
+            int shortOf = client < 2 ? 0 : 6 - client;
+            lines.add("position(" + client + ", 0) = " + -shortOf);
+            lines.add("clientOf(" + client + ", 0) = " + (-90 * (client + 1) - 900 * shortOf));
+        }
+        lines.add("stockOf(0, 2) = 10");
+        lines.add("stockOf(3, 1) = 21");
+        Script.run(TERMS, "A dividend is paid to each client for what it is long, and by each for what it is short",
+                lines.toArray(new String[0]));
+    }
+
     private static void needs() {
         Script.run(TERMS, "the worth of its position, without sign, times the margin, divided by 100", "offer(0, 1, 9, 0) = 9",
                 "locate(0, 1, 9) = 0", "sellShort(0, 9) = 900", "clientOf(0, 2) = 540", "margin(1, 10) = 50",
@@ -382,12 +407,12 @@ final class TermSentences {
                 "offer(0, 0, 25, 3600) = 25", "offer(2, 1, 25, 100) = 25", "locate(3, 0, 40) = 0", "sellShort(0, 35) = 3500",
                 "locate(4, 1, 30) = 1", "locate(3, 1, 44) = 2", "sellShort(2, 44) = 6712", "recall(0, 0, 4, 2) = 0",
                 "recall(2, 1, 500, 1) = 1", "pass(1) = 1", "sell(1, 1, 6) = -1022", "dividend(0, 7) = 35", "fail(5) = 0",
-                "price(0, 0) = argument", "margin(0, 9) = argument", "cash(0, -1) = state", "cash(5, 1) = state",
+                "cash(0, 5000) = 2210", "price(0, 0) = argument", "margin(0, 9) = argument", "cash(1, -1) = state", "cash(5, 1) = state",
                 "allow(5, true) = state", "offer(0, 0, 501, 9) = argument", "offer(0, 0, 1, 10001) = argument",
                 "dividend(0, 0) = argument", "pass(51) = argument", "buy(0, 0, 500) = state", "buy(5, 0, 1) = state",
                 "sell(0, 0, 31) = state", "sell(3, 0, 1) = state", "locate(2, 0, 500) = state", "sellShort(0, 1) = state",
                 "sellShort(1, 30) = state", "sellShort(1, 31) = argument", "recall(0, 0, 1, 11) = argument",
-                "liquidate(2) = state", "liquidate(5) = state", "fail(5) = state", "fail(6) = index", "position(0, 4) = index",
+                "liquidate(0) = state", "liquidate(5) = state", "fail(5) = state", "fail(6) = index", "position(0, 4) = index",
                 "part(6, 0) = index", "partAnew(-1, 0) = index", "clientOf(0, 5) = argument", "lenderOf(0, 0, 4) = argument",
                 "stockOf(0, 7) = argument", "loanOf(99, 0) = index", "locateOf(3, 0) = index", "count(5) = argument");
     }
